@@ -553,7 +553,8 @@ public final class NamesInRow {
     }
 
     private void addDuesOf(Paper paper) {
-        Row byShare = arranged(paper, BY_SHARE);
+        // Nobody's ROOM matters BY SHARE.
+        Row byShare = arrangement.arrange(paper, BY_SHARE, NONE);
         for (int person = 0; person < PEOPLE; person++) {
             if (paper.row.holds(person)) {
                 dues[person] += paper.row.placeOf(person) - byShare.placeOf(person);

@@ -162,6 +162,13 @@ public final class CustomsTest {
         CHECK.due("15: trade 2, room of 0", x.learn(2), 2);
         x.room(2, 1);
         CHECK.due("15: trade 2, room of 1", x.learn(2), 6);
+        putRow(x, 0, 4, 3);
+        x.trade(0, 1);
+        CHECK.due("15: the first paper", x.learn(1), 0);
+        x.trade(7, 1);
+        putRow(x, 0);
+        x.room(1, 0);
+        CHECK.due("15: the last paper", x.learn(1), 2);
         for (int trade : NO_TRADE) {
             CHECK.due("15: no trade", x.learn(trade), -2);
         }
