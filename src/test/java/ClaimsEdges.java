@@ -98,7 +98,8 @@ final class ClaimsEdges {
     }
 
     private void losses() {
-        doc.term("2 LOSSES: each what it says less a same number for all, not below 0 (that number each time such that they are 100 together).");
+        doc.term("2 LOSSES: each what it says less a same number for all, not below 0 "
+                + "(that number each time such that they are 100 together).");
         allGet(claiming(50, 50), LOSSES, 50, 1, 50, 1);
         allGet(claiming(50, 51), LOSSES, 99, 2, 101, 2);
         allGet(claiming(100, 1), LOSSES, 199, 2, 1, 2);

@@ -64,13 +64,13 @@ final class Face {
         return answer <= NamesInRow.UNKNOWN && answer >= NamesInRow.FULL;
     }
 
-    /** One of the numbers that a call takes. */
-    static final class Number {
+    /** What one of the numbers of a call may be. */
+    static final class Range {
         final char kind;
         final int least;
         final int greatest;
 
-        Number(String word) {
+        Range(String word) {
             kind = word.charAt(0);
             String[] ends = word.substring(1).split("\\.\\.");
             least = kind == 'i' || kind == 'b' ? 0 : Integer.parseInt(ends[0]);
@@ -90,15 +90,15 @@ final class Face {
 
     static final class Call {
         final String name;
-        final Number[] numbers;
+        final Range[] numbers;
         private final Method method;
 
         Call(String[] words) {
             name = words[0];
-            numbers = new Number[words.length - 1];
+            numbers = new Range[words.length - 1];
             Class<?>[] types = new Class<?>[numbers.length];
             for (int i = 0; i < numbers.length; i++) {
-                numbers[i] = new Number(words[i + 1]);
+                numbers[i] = new Range(words[i + 1]);
                 types[i] = numbers[i].kind == 'b' ? boolean.class : int.class;
             }
             try {
@@ -137,7 +137,7 @@ final class Face {
                 given[i] = numbers[i].kind == 'b' ? (Object) (with[i] != 0) : (Object) with[i];
             }
             try {
-                return ((java.lang.Number) method.invoke(x, given)).longValue();
+                return ((Number) method.invoke(x, given)).longValue();
             } catch (ReflectiveOperationException thrown) {
                 throw new IllegalStateException(told(with), thrown);
             }

@@ -48,7 +48,8 @@ final class OwedFilesEdges {
     }
 
     private void owedByATrade() {
-        doc.term("OWED is a PERSON by a TRADE (-1: by all): of all its PAPERS in whose ROW it stands: its place in the ROW less its place there BY SHARE, together (below 0: it owes).");
+        doc.term("OWED is a PERSON by a TRADE (-1: by all): of all its PAPERS in whose ROW it stands: "
+                + "its place in the ROW less its place there BY SHARE, together (below 0: it owes).");
         NamesInRow x = new NamesInRow();
         for (int trade = -1; trade <= 2; trade++) {
             owedIs("empty rows", x, trade);

@@ -94,7 +94,8 @@ final class QuarrelEdges {
     }
 
     private void thePeace() {
-        doc.term("THE PEACE of a set: of all ORDERS in which each BEARS what it minds that in which all mind least together; of like ones the first by numbers.");
+        doc.term("THE PEACE of a set: of all ORDERS in which each BEARS what it minds that in which all mind least together; "
+                + "of like ones the first by numbers.");
         NamesInRow x = new NamesInRow();
         doc.due("the empty set", x.peace(0), 0);
         orderIs("the empty set", x, 0);
@@ -114,7 +115,7 @@ final class QuarrelEdges {
         orderIs("no order", x, SEVEN);
         doc.due("without 0", x.peace(SEVEN - 1), 135);
         orderIs("without 0", x, SEVEN - 1, 6, 5, 4, 3, 2, 1);
-        // The least of all is 1 1 0, which 0 does not bear: what all bear goes ahead of what is least.
+        // What all BEAR goes ahead of what is least.
         NamesInRow y = new NamesInRow();
         y.mind(0, 1, 1);
         y.mind(1, 0, 9);
@@ -192,6 +193,11 @@ final class QuarrelEdges {
         }
         doc.due("an empty row", x.quarrel(0, true), 0);
         doc.due("an empty row", x.quarrel(0, false), 0);
+        for (int person = 0; person <= 6; person++) {
+            Build.row(x, 0, person);
+            doc.due("one alone minds nobody", x.quarrel(0, true), 0);
+            doc.due("one alone bears it", x.quarrel(0, false), 0);
+        }
         doc.promise(28, "UNKNOWN.");
         for (int paper : Build.NO_PAPER) {
             doc.due("no paper", x.quarrel(paper, true), UNKNOWN);

@@ -102,8 +102,8 @@ final class UnchangedEdges {
     private static int[] anyTaken(Face.Call call, Random random) {
         int[] with = new int[call.numbers.length];
         for (int i = 0; i < with.length; i++) {
-            Face.Number number = call.numbers[i];
-            with[i] = number.least + random.nextInt(number.greatest - number.least + 1);
+            Face.Range range = call.numbers[i];
+            with[i] = range.least + random.nextInt(range.greatest - range.least + 1);
         }
         return with;
     }
@@ -176,10 +176,10 @@ final class UnchangedEdges {
             questions.add(new Step(call, with.clone()));
             return;
         }
-        Face.Number number = call.numbers[i];
-        int[] asked = number.greatest == 127 ? SETS : null;
-        int step = number.greatest == 100 ? 20 : 1;
-        for (int v = number.least; v <= (asked == null ? number.greatest : asked.length - 1); v += step) {
+        Face.Range range = call.numbers[i];
+        int[] asked = range.greatest == 127 ? SETS : null;
+        int step = range.greatest == 100 ? 20 : 1;
+        for (int v = range.least; v <= (asked == null ? range.greatest : asked.length - 1); v += step) {
             with[i] = asked == null ? v : asked[v];
             askAll(questions, call, with, i + 1);
         }
