@@ -1,6 +1,7 @@
 import java.lang.reflect.Method;
 import java.util.ArrayList;
 import java.util.List;
+import java.util.Random;
 
 /** The calls of the face: which numbers each takes, and what it answers to others. */
 final class Face {
@@ -127,6 +128,15 @@ final class Face {
             int[] taken = new int[numbers.length];
             for (int i = 0; i < taken.length; i++) {
                 taken[i] = i % 2 == 0 == greatestFirst ? numbers[i].greatest : numbers[i].least;
+            }
+            return taken;
+        }
+
+        /** Numbers that are all taken, by chance. */
+        int[] anyTaken(Random random) {
+            int[] taken = new int[numbers.length];
+            for (int i = 0; i < taken.length; i++) {
+                taken[i] = numbers[i].least + random.nextInt(numbers[i].greatest - numbers[i].least + 1);
             }
             return taken;
         }

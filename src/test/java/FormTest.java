@@ -1,4 +1,5 @@
 import java.io.IOException;
+import java.lang.reflect.Array;
 import java.lang.reflect.Constructor;
 import java.lang.reflect.Field;
 import java.lang.reflect.Method;
@@ -6,13 +7,17 @@ import java.lang.reflect.Modifier;
 import java.nio.charset.StandardCharsets;
 import java.nio.file.Files;
 import java.nio.file.Path;
-import java.util.HashSet;
+import java.util.ArrayList;
+import java.util.Collections;
+import java.util.IdentityHashMap;
 import java.util.List;
+import java.util.Random;
 import java.util.Set;
 import java.util.TreeSet;
+import java.util.regex.Matcher;
 import java.util.regex.Pattern;
 
-/** The public face of the document, and what of LANGUAGE.md can be read off the class and its text. */
+/** The public face, as the document writes it out, and the room that an object takes. LanguageTest has the rules. */
 public final class FormTest {
     private static final Check CHECK = new Check("FormTest");
     private static final String[] FACE = {"int trade(int,int)", "int task(int,int,int,int)", "int hours(int,int,int,int)",
@@ -24,16 +29,19 @@ public final class FormTest {
         "int mind(int,int,int)", "int bear(int,int)", "int quarrel(int,boolean)", "int peace(int)",
         "int peaceAt(int,int)", "int settle(int)", "int owed(int,int)", "int next(int,int,int)", "int keep(int,int)",
         "int cost(int,int)", "int count(int)"};
-    private static final String[] FORBIDDEN = {"\\bthrow\\b", "\\bthrows\\b", "\\btry\\b", "\\bcatch\\b",
-        "\\bsynchronized\\b", "\\bassert\\b", "\\bimport\\b", "\\bpackage\\b", "\\bnative\\b", "->", "::", "Exact\\(",
-        "\\bObject\\b", "\\bThread\\b", "\\bSystem\\b", "\\bstatic \\{"};
 
-    public static void main(String[] args) throws IOException {
+    public static void main(String[] args) throws IOException, ReflectiveOperationException {
         face();
         constants();
-        classesInside();
-        Path source = Path.of(args.length > 0 ? args[0] : ".", "src/main/java/NamesInRow.java");
-        text(Files.readString(source, StandardCharsets.ISO_8859_1));
+        room();
+        String root = args.length > 0 ? args[0] : ".";
+        String source = Files.readString(Path.of(root, "src/main/java/NamesInRow.java"), StandardCharsets.ISO_8859_1);
+        Path document = Path.of(root, "../shared/DOC.md");
+        if (Files.isReadable(document)) {
+            asWrittenOut(source, Files.readString(document, StandardCharsets.UTF_8));
+        } else {
+            System.out.println("FormTest: " + document + " is not there; its face was not compared");
+        }
         CHECK.end();
     }
 
@@ -52,20 +60,13 @@ public final class FormTest {
         CHECK.isTrue("one public constructor", constructors.length == 1 && constructors[0].getParameterCount() == 0
                 && constructors[0].getModifiers() == Modifier.PUBLIC);
         Set<String> methods = new TreeSet<>();
-        Set<String> publicNames = new HashSet<>();
         for (Method method : NamesInRow.class.getDeclaredMethods()) {
-            if (method.getModifiers() == Modifier.PUBLIC) {
+            if (!Modifier.isPrivate(method.getModifiers())) {
+                CHECK.isTrue(method + " is public and no more", method.getModifiers() == Modifier.PUBLIC);
                 methods.add(described(method));
-                publicNames.add(method.getName());
             }
         }
         CHECK.isTrue("the methods of the document: " + methods, methods.equals(new TreeSet<>(List.of(FACE))));
-        for (Method method : NamesInRow.class.getDeclaredMethods()) {
-            if (method.getModifiers() != Modifier.PUBLIC) {
-                CHECK.isTrue(method + " is private", Modifier.isPrivate(method.getModifiers()));
-                CHECK.isTrue(method + " has a name of its own", !publicNames.contains(method.getName()));
-            }
-        }
     }
 
     private static void constants() {
@@ -76,10 +77,7 @@ public final class FormTest {
         CHECK.due("NONE", NamesInRow.NONE, -9);
         Set<String> constants = new TreeSet<>();
         for (Field field : NamesInRow.class.getDeclaredFields()) {
-            int modifiers = field.getModifiers();
-            CHECK.isTrue(field + " is final, if static", !Modifier.isStatic(modifiers) || Modifier.isFinal(modifiers));
-            if (!Modifier.isPrivate(modifiers)) {
-                CHECK.isTrue(field + " is a constant", modifiers == (Modifier.PUBLIC | Modifier.STATIC | Modifier.FINAL));
+            if (!Modifier.isPrivate(field.getModifiers())) {
                 constants.add(field.getName());
             }
         }
@@ -87,42 +85,95 @@ public final class FormTest {
                 constants.equals(Set.of("UNKNOWN", "OUTSIDE", "STATE", "FULL", "NONE")));
     }
 
-    private static void classesInside() {
-        Class<?>[] inside = NamesInRow.class.getDeclaredClasses();
-        CHECK.isTrue("at most twelve classes", inside.length <= 11);
-        for (Class<?> one : inside) {
-            int modifiers = one.getModifiers();
-            CHECK.isTrue(one + " is static", Modifier.isStatic(modifiers));
-            CHECK.isTrue(one + " is not public", !Modifier.isPublic(modifiers) && !Modifier.isProtected(modifiers));
-            CHECK.isTrue(one + " has at most twenty fields", one.getDeclaredFields().length <= 20);
+    /** The lines of the face, word for word and in their order, and what the interface says ahead of each group. */
+    private static void asWrittenOut(String source, String document) {
+        String face = document.substring(document.indexOf("public final class"), document.indexOf("## Terms"));
+        CHECK.isTrue("the document's face was found", publicLines(face).size() == FACE.length + 3);
+        CHECK.isTrue("the lines of the face", publicLines(source).equals(publicLines(face)));
+        List<String> groups = new ArrayList<>();
+        Matcher ahead = Pattern.compile("(?m)^Ahead of the calls (.*) the interface says: (---- .*)\\.$").matcher(document);
+        while (ahead.find()) {
+            groups.add(ahead.group(2) + ": " + ahead.group(1).replace("`", ""));
         }
+        CHECK.due("groups of calls in the document", groups.size(), 6);
+        CHECK.isTrue("the groups of calls: " + groupsIn(source), groupsIn(source).equals(groups));
     }
 
-    private static void text(String source) {
-        for (int i = 0; i < source.length(); i++) {
-            if (source.charAt(i) < 1 || source.charAt(i) > 127) {
-                CHECK.isTrue("sign " + (int) source.charAt(i), false);
+    private static List<String> publicLines(String text) {
+        List<String> lines = new ArrayList<>();
+        for (String line : text.split("\n")) {
+            if (line.trim().startsWith("public ")) {
+                lines.add(line.trim().replaceFirst("( \\{|;)$", ""));
             }
         }
-        String code = source.replaceAll("(?s)/\\*.*?\\*/", "").replaceAll("//[^\n]*", "");
-        for (String forbidden : FORBIDDEN) {
-            CHECK.isTrue("without " + forbidden, !Pattern.compile(forbidden).matcher(code).find());
+        return lines;
+    }
+
+    private static List<String> groupsIn(String source) {
+        List<String> groups = new ArrayList<>();
+        String heading = "";
+        String calls = "";
+        for (String line : (source + "\n// ---- end").split("\n")) {
+            if (line.trim().startsWith("// ----")) {
+                if (!calls.isEmpty()) {
+                    groups.add(heading + ": " + calls);
+                }
+                heading = line.trim().substring(3);
+                calls = "";
+            }
+            Matcher call = Pattern.compile(" {4}public \\w+ (\\w+)\\(.*").matcher(line);
+            if (call.matches()) {
+                calls += (calls.isEmpty() ? "" : ", ") + call.group(1);
+            }
         }
-        String[] lines = code.split("\n");
-        int start = -1;
-        for (int i = 0; i < lines.length; i++) {
-            String line = lines[i];
-            if (line.matches(" {4}(?: {4})?(?!.*\\bclass\\b)\\w.*\\) \\{")) {
-                start = i;
-                CHECK.isTrue("at most seven parameters: " + line, line.split(",").length <= 7);
+        return groups;
+    }
+
+    /** What a run may make is counted: an object takes little, and its 512 calls nothing more. */
+    private static void room() throws ReflectiveOperationException {
+        NamesInRow x = new NamesInRow();
+        int[] before = roomOf(x);
+        CHECK.isTrue("at most 200 objects: " + before[0], before[0] <= 200);
+        CHECK.isTrue("at most 2000 fields and elements: " + before[1], before[1] <= 2000);
+        Random random = new Random(1);
+        List<Face.Call> calls = Face.calls();
+        for (int i = 0; i < 512; i++) {
+            Face.Call call = calls.get(random.nextInt(calls.size()));
+            call.on(x, call.anyTaken(random));
+        }
+        int[] after = roomOf(x);
+        CHECK.due("objects after 512 calls", after[0], before[0]);
+        CHECK.due("fields and elements after 512 calls", after[1], before[1]);
+    }
+
+    /** How many objects and arrays there are, and how many fields and elements they have together. */
+    private static int[] roomOf(Object first) throws ReflectiveOperationException {
+        Set<Object> seen = Collections.newSetFromMap(new IdentityHashMap<>());
+        List<Object> left = new ArrayList<>(List.of(first));
+        seen.add(first);
+        int numbers = 0;
+        while (!left.isEmpty()) {
+            Object one = left.remove(left.size() - 1);
+            List<Object> held = new ArrayList<>();
+            if (one.getClass().isArray()) {
+                for (int i = 0; i < Array.getLength(one); i++) {
+                    held.add(one.getClass().getComponentType().isPrimitive() ? null : Array.get(one, i));
+                }
+            } else {
+                for (Field field : one.getClass().getDeclaredFields()) {
+                    if (!Modifier.isStatic(field.getModifiers())) {
+                        field.setAccessible(true);
+                        held.add(field.getType().isPrimitive() ? null : field.get(one));
+                    }
+                }
             }
-            if (start >= 0 && line.matches(" {4}(?: {4})?\\}")) {
-                CHECK.isTrue("short: " + lines[start], i - start <= 60);
-            }
-            // All rows are made with the object, so that no call adds to the room of a run.
-            if (line.contains("new ")) {
-                CHECK.isTrue("made once: " + line, line.contains("final ") || line.contains("papers[i] = new Paper()"));
+            numbers += held.size();
+            for (Object other : held) {
+                if (other != null && seen.add(other)) {
+                    left.add(other);
+                }
             }
         }
+        return new int[] {seen.size(), numbers};
     }
 }

@@ -79,7 +79,7 @@ final class UnchangedEdges {
         String[] often = {"trade", "task", "hours", "hours", "hours", "name", "name", "claim", "claim", "mind", "room", "bear"};
         while (seed > 0 && steps.size() < BUILDING) {
             Face.Call call = named(often[random.nextInt(often.length)], random.nextInt(2));
-            int[] with = anyTaken(call, random);
+            int[] with = call.anyTaken(random);
             if (seed == 2 && call.numbers[0].greatest == 7) {
                 with[0] = with[0] % 2 * 7;
             }
@@ -94,18 +94,9 @@ final class UnchangedEdges {
         Random random = new Random(100 + seed);
         while (steps.size() < ASKED) {
             Face.Call call = calls.get(random.nextInt(calls.size()));
-            steps.add(new Step(call, anyTaken(call, random)));
+            steps.add(new Step(call, call.anyTaken(random)));
         }
         return steps;
-    }
-
-    private static int[] anyTaken(Face.Call call, Random random) {
-        int[] with = new int[call.numbers.length];
-        for (int i = 0; i < with.length; i++) {
-            Face.Range range = call.numbers[i];
-            with[i] = range.least + random.nextInt(range.greatest - range.least + 1);
-        }
-        return with;
     }
 
     /** The first row of the face that bears this name, or one behind it. */
